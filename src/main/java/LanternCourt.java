@@ -260,7 +260,7 @@ public final class LanternCourt {
 
     public int groupCount() {
         groups.find(now.lanterns, now.statements, ALL);
-        return groups.number();
+        return groups.countGroups();
     }
 
     public boolean isContradictory(int lantern) throws IndexOutOfBoundsException {
@@ -753,7 +753,9 @@ public final class LanternCourt {
             int[] own = sentences[lantern];
             int left = own[0];
             sentenceCounts[lantern]--;
-            System.arraycopy(own, 1, own, 0, sentenceCounts[lantern]);
+            for (int i = 0; i < sentenceCounts[lantern]; i++) {
+                own[i] = own[i + 1];
+            }
             return left;
         }
 
@@ -898,7 +900,9 @@ public final class LanternCourt {
             count = other.count;
             System.arraycopy(other.firsts, 0, firsts, 0, MOST_STATEMENTS);
             System.arraycopy(other.seconds, 0, seconds, 0, MOST_STATEMENTS);
-            System.arraycopy(other.togethers, 0, togethers, 0, MOST_STATEMENTS);
+            for (int i = 0; i < MOST_STATEMENTS; i++) {
+                togethers[i] = other.togethers[i];
+            }
         }
 
         boolean isFull() {
@@ -1059,11 +1063,11 @@ public final class LanternCourt {
         }
     }
 
-    /** Groups with sides: each lantern has a leader, and is on its side or on the other one. */
+    /** Groups with sides: each lantern has a leader, and is on its side, 0, or on the other one, 1. */
     private static final class Groups {
         private int count;
         private final int[] leaders = new int[MOST_LANTERNS];
-        private final boolean[] isAcross = new boolean[MOST_LANTERNS];
+        private final int[] sides = new int[MOST_LANTERNS];
         /** Of leaders: whether the statements of the group cannot all be true. */
         private final boolean[] clashes = new boolean[MOST_LANTERNS];
         /** Of leaders: the sum of the different things that the admissions say of the leader. */
@@ -1074,45 +1078,45 @@ public final class LanternCourt {
             count = lanterns.count;
             for (int i = 0; i < count; i++) {
                 leaders[i] = i;
-                isAcross[i] = false;
+                sides[i] = 0;
                 clashes[i] = false;
                 claims[i] = NOTHING;
             }
             for (int i = 0; i < statements.count; i++) {
                 if ((kept >> i & 1) == 1) {
-                    join(statements.firsts[i], statements.seconds[i], !statements.togethers[i]);
+                    join(statements.firsts[i], statements.seconds[i], statements.togethers[i] ? 0 : 1);
                 }
             }
             for (int i = 0; i < count; i++) {
                 if (lanterns.admissions[i] != NOTHING) {
-                    claims[leaders[i]] |= seenAcross(i, lanterns.admissions[i]);
+                    claims[leaders[i]] |= seenByLeader(i, lanterns.admissions[i]);
                 }
             }
         }
 
-        private void join(int first, int second, boolean apart) {
+        private void join(int first, int second, int difference) {
             int leader = leaders[first];
             int joined = leaders[second];
-            boolean turn = isAcross[first] ^ isAcross[second] ^ apart;
+            int turn = sides[first] ^ sides[second] ^ difference;
             if (leader == joined) {
-                clashes[leader] |= turn;
+                clashes[leader] = clashes[leader] || turn == 1;
                 return;
             }
-            clashes[leader] |= clashes[joined];
+            clashes[leader] = clashes[leader] || clashes[joined];
             for (int i = 0; i < count; i++) {
                 if (leaders[i] == joined) {
                     leaders[i] = leader;
-                    isAcross[i] ^= turn;
+                    sides[i] ^= turn;
                 }
             }
         }
 
         /** Turns guilty into innocent, and the reverse, if the lantern is not on its leader's side. */
-        private int seenAcross(int lantern, int claim) {
-            return isAcross[lantern] ? OPPOSITES - claim : claim;
+        private int seenByLeader(int lantern, int claim) {
+            return sides[lantern] == 1 ? OPPOSITES - claim : claim;
         }
 
-        int number() {
+        int countGroups() {
             int number = 0;
             for (int i = 0; i < count; i++) {
                 if (leaders[i] == i) {
@@ -1127,7 +1131,7 @@ public final class LanternCourt {
         }
 
         boolean areOnOneSide(int first, int second) {
-            return isAcross[first] == isAcross[second];
+            return sides[first] == sides[second];
         }
 
         boolean hasClash(int lantern) {
@@ -1135,7 +1139,7 @@ public final class LanternCourt {
         }
 
         boolean isBroken(int lantern) {
-            return hasClash(lantern) || claims[leaders[lantern]] == OPPOSITES;
+            return clashes[leaders[lantern]] || claims[leaders[lantern]] == OPPOSITES;
         }
 
         char verdictOn(int lantern) {
@@ -1146,7 +1150,7 @@ public final class LanternCourt {
             if (claim == NOTHING) {
                 return 'u';
             }
-            return seenAcross(lantern, claim) == GUILTY ? 'g' : 'i';
+            return seenByLeader(lantern, claim) == GUILTY ? 'g' : 'i';
         }
 
         /** A group that no admission decides can be explained in two ways. */
@@ -1185,8 +1189,11 @@ public final class LanternCourt {
             boolean canBeInnocent = false;
             for (int guilty = 0; guilty < 1 << lanterns.count; guilty++) {
                 if (keepsAdmissions(group, guilty) && statements.countFalse(group, guilty) == 0) {
-                    canBeGuilty |= (guilty >> lantern & 1) == 1;
-                    canBeInnocent |= (guilty >> lantern & 1) == 0;
+                    if ((guilty >> lantern & 1) == 1) {
+                        canBeGuilty = true;
+                    } else {
+                        canBeInnocent = true;
+                    }
                 }
             }
             if (canBeGuilty) {
@@ -1340,18 +1347,18 @@ public final class LanternCourt {
         }
 
         private boolean readPart(char part) {
-            switch (part) {
-                case ' ':
-                    return readCharacter(' ');
-                case '+':
-                    choice = readCharacter('+');
-                    return choice || readCharacter('-');
-                case 'g':
-                    choice = readCharacter('g');
-                    return choice || readCharacter('i');
-                default:
-                    return readNumber(part - '0');
+            if (part == ' ') {
+                return readCharacter(' ');
             }
+            if (part == '+') {
+                choice = readCharacter('+');
+                return choice || readCharacter('-');
+            }
+            if (part == 'g') {
+                choice = readCharacter('g');
+                return choice || readCharacter('i');
+            }
+            return readNumber(part - '0');
         }
 
         private boolean readCharacter(char wanted) {

@@ -15,6 +15,7 @@ final class BriefsTest {
         planOrder();
         planByFees();
         planTies();
+        planAfterEachChange();
         planFees();
         sums();
         guiltyShare();
@@ -228,6 +229,27 @@ final class BriefsTest {
         Check.due("24: earlier last day, then lower id", () -> Check.plan(court), "3 0");
         court.withdraw(3);
         Check.due("24: lower ids", () -> Check.plan(court), "0 1");
+    }
+
+    /** Each question finds the plan anew, whatever was asked before. */
+    private static void planAfterEachChange() {
+        LanternCourt court = Check.courtWith(1);
+        court.file(0, 1, 5, 1);
+        Check.due("27: one brief", court::planFeeBySets, 5);
+        court.file(0, 1, 6, 1);
+        Check.due("27: a dearer one", court::planFeeBySets, 6);
+        Check.due("25: the dearer one", () -> court.hearingDay(1), 1);
+        court.file(0, 1, 7, 1);
+        Check.fails("25: no more", () -> court.hearingDay(1), NoSuchElementException.class);
+        Check.due("24: the dearest one", () -> court.isInPlan(2), true);
+        court.file(0, 1, 8, 1);
+        Check.due("24: no more", () -> court.isInPlan(2), false);
+        court.withdraw(3);
+        Check.due("26: the dearest that waits", court::planFee, 7);
+        court.withdraw(2);
+        Check.due("25: again", () -> court.hearingDay(1), 1);
+        court.undo();
+        Check.due("55: undone", () -> Check.plan(court), "2");
     }
 
     private static void planFees() {

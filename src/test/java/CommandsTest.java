@@ -6,8 +6,10 @@ final class CommandsTest {
         feed();
         everyCommand();
         formsOfNumbers();
+        numbersOfEarlierCommands();
         wellFormedTexts();
         malformedTexts();
+        textsAfterLongerOnes();
         errorPositionIsKept();
         failingCommands();
         failuresKeepTheState();
@@ -73,6 +75,21 @@ final class CommandsTest {
         runs(court, "cancel 000;cancel 01;cancel 2", 3);
         runs(court, "say 01+;say 10-;drop 01;drop 00", 4);
         Check.due("51: both dropped", court::statementCount, 0);
+    }
+
+    private static void numbersOfEarlierCommands() {
+        LanternCourt court = Check.courtWith(3);
+        court.file(0, 12, 1, 1);
+        for (int i = 0; i < 4; i++) {
+            court.makeStatement(i % 3, (i + 1) % 3, true);
+        }
+        runs(court, "file 2 3 4 5;drop 1;cancel 0", 3);
+        Check.due("51: the second statement was dropped", () -> court.firstOf(1), 2);
+        Check.due("51: the second brief waits", () -> court.briefAt(0), 1);
+        runs(court, "file 0 9 9 9;wait", 2);
+        Check.due("51: one day, not nine", court::day, 1);
+        runs(court, "wait 9;wait", 2);
+        Check.due("51: nine days and one", court::day, 11);
     }
 
     private static void wellFormedTexts() {
@@ -147,6 +164,21 @@ final class CommandsTest {
         malformed("wait\u0000", 4);
         malformed("wait \u0661", 5);
         malformed("\uffff", 0);
+    }
+
+    /** The end of the text counts, and not what an earlier text has left behind it. */
+    private static void textsAfterLongerOnes() {
+        LanternCourt court = Check.courtWith(2);
+        for (String longer : new String[] {"file 0 1 1 1", "say 01+", "admit 1 g", "wait 5", "drop 0"}) {
+            for (int length = 0; length < longer.length(); length++) {
+                Check.run(court, longer);
+                String start = longer.substring(0, length);
+                if (!start.equals("wait")) {
+                    runs(court, start, "throws.IllegalArgumentException");
+                    Check.due("52: \"" + start + "\"", court::errorPosition, length);
+                }
+            }
+        }
     }
 
     private static void errorPositionIsKept() {

@@ -14,6 +14,7 @@ final class LanternsTest {
         sentences();
         atMostEightSentences();
         lanternByBrightness();
+        equalBrightness();
         meanBrightness();
         Check.end();
     }
@@ -172,10 +173,7 @@ final class LanternsTest {
         LanternCourt court = Check.courtWith(5);
         Check.fails("41: rank -1", () -> court.lanternByBrightness(-1), NoSuchElementException.class);
         Check.fails("41: rank 5", () -> court.lanternByBrightness(5), NoSuchElementException.class);
-        for (int i = 0; i < 5; i++) {
-            int rank = i;
-            Check.due("41: all equal, rank " + i, () -> court.lanternByBrightness(rank), rank);
-        }
+        ranks(court, new int[] {0, 1, 2, 3, 4});
         for (int i = 1; i < 5; i++) {
             court.admit(i, true);
         }
@@ -184,22 +182,16 @@ final class LanternsTest {
         court.file(3, 3, 9, 9);
         court.passDays(3);
         court.pardon(3);
-        // 0: 9 bright; 1: 9 bright; 2: 7 bright, 2 days; 3: 8 bright, 0 days; 4: 6 bright, 6 days
+        // 4 is at 6, 2 at 7, 3 at 8, and 0 and 1 are at 9.
         ranks(court, new int[] {4, 2, 3, 0, 1});
+        Check.fails("41: rank 5 later", () -> court.lanternByBrightness(5), NoSuchElementException.class);
         court.file(1, 1, 9, 9);
-        court.passDays(1);
-        court.undo();
         court.file(3, 2, 9, 9);
-        court.passDays(1);
-        // 3: 8, then dimmed to 7 with 17 days; 1: 8 with 8 days would need its hearing
-        court.passDays(1);
-        Check.due("41: 1 was heard first", () -> Check.lantern(court, 1), "1*******g/7");
-        Check.due("41: 3 brightened, then dimmed", () -> Check.lantern(court, 3), "3********g/8");
+        court.passDays(2);
+        Check.due("41: 1 was dimmed twice", () -> Check.lantern(court, 1), "1*******g/7");
+        Check.due("41: 3 was brighter before it was dimmed", () -> Check.lantern(court, 3), "3********g/8");
+        // 4 is at 4, 2 at 5 without days left, 1 at 7, 3 at 8, 0 at 9.
         ranks(court, new int[] {4, 2, 1, 3, 0});
-        court.pardon(1);
-        court.file(0, 1, 1, 1);
-        ranks(court, new int[] {4, 2, 1, 3, 0});
-        equalBrightness();
     }
 
     private static void equalBrightness() {

@@ -8,11 +8,13 @@ final class StatementsTest {
         groupCount();
         contradictions();
         relation();
+        statementsAboutOneSide();
         verdicts();
         verdictsAcrossSides();
         verdictsOfOtherGroups();
         explanations();
         leastFalse();
+        singleExplanations();
         isConsistent();
         Check.end();
     }
@@ -39,6 +41,18 @@ final class StatementsTest {
         Check.due("30: second of the last", () -> court.secondOf(11), 0);
         Check.due("31: together", () -> court.isTogether(4), true);
         Check.due("31: apart", () -> court.isTogether(5), false);
+    }
+
+    private static void statementsAboutOneSide() {
+        LanternCourt court = Check.courtWith(5);
+        court.makeStatement(0, 1, false);
+        court.makeStatement(2, 3, false);
+        court.makeStatement(1, 2, false);
+        court.makeStatement(3, 4, false);
+        court.makeStatement(4, 0, true);
+        Check.due("34: both sides turn when groups are joined", () -> court.relation(0, 3), '-');
+        Check.due("34: the side next to it", () -> court.relation(0, 2), '+');
+        Check.due("33: an even ring", () -> court.isContradictory(4), false);
     }
 
     private static void dropStatement() {
@@ -237,6 +251,24 @@ final class StatementsTest {
             full.makeStatement(0, 1, false);
         }
         leastFalseIs(full, 12);
+    }
+
+    /** Cases in which a single explanation is the best one, the first and the last among them. */
+    private static void singleExplanations() {
+        for (boolean guilty : new boolean[] {false, true}) {
+            LanternCourt court = Check.courtWith(3);
+            for (int i = 0; i < 3; i++) {
+                court.admit(i, guilty);
+            }
+            court.makeStatement(0, 1, true);
+            explanationsAre(court, 1);
+            leastFalseIs(court, 0);
+            court.makeStatement(1, 2, false);
+            explanationsAre(court, 0);
+            leastFalseIs(court, 1);
+            court.makeStatement(2, 0, false);
+            leastFalseIs(court, 2);
+        }
     }
 
     private static void isConsistent() {

@@ -4,6 +4,7 @@ final class UndoTest {
         whatIsRecorded();
         whatIsNotRecorded();
         whatIsUndone();
+        briefsComeBack();
         atMostEight();
         undoAfterUndo();
         undoDays();
@@ -99,6 +100,23 @@ final class UndoTest {
         court.undo();
         Check.due("58: all commands", court::lanternCount, 2);
         Check.due("58: and days", court::day, 0);
+    }
+
+    private static void briefsComeBack() {
+        LanternCourt court = Check.courtWith(2);
+        court.file(0, 9, 8, 7);
+        court.file(1, 3, 4, 5);
+        court.withdraw(0);
+        court.undo();
+        Check.due("58: lantern of the first", () -> court.lanternOf(0), 0);
+        Check.due("58: last day of the first", () -> court.lastDay(0), 9);
+        Check.due("58: fee of the first", () -> court.fee(0), 8);
+        Check.due("58: severity of the first", () -> court.severity(0), 7);
+        Check.due("58: lantern of the second", () -> court.lanternOf(1), 1);
+        Check.due("58: last day of the second", () -> court.lastDay(1), 3);
+        Check.due("58: fee of the second", () -> court.fee(1), 4);
+        Check.due("58: severity of the second", () -> court.severity(1), 5);
+        Check.due("58: both wait", court::briefCount, 2);
     }
 
     private static void atMostEight() {
