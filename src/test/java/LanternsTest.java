@@ -239,5 +239,11 @@ final class LanternsTest {
         Check.due("47: one dimmed", court::meanBrightness, 26.0 / 3.0);
         court.passDays(1);
         Check.due("47: one dimmed twice", court::meanBrightness, 25.0 / 3.0);
+        LanternCourt full = Check.courtWith(8);
+        full.admit(7, true);
+        Check.sentence(full, 7, 1);
+        Check.due("47: eight lanterns", full::meanBrightness, 8.875);
+        ranks(full, new int[] {7, 0, 1, 2, 3, 4, 5, 6});
+        Check.fails("41: rank 8", () -> full.lanternByBrightness(8), NoSuchElementException.class);
     }
 }

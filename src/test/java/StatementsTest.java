@@ -75,6 +75,14 @@ final class StatementsTest {
         Check.due("6: drop the last", () -> court.dropStatement(1), 1);
         Check.due("6: drop the first", () -> court.dropStatement(0), 0);
         Check.due("28: none left", court::statementCount, 0);
+        for (int i = 0; i < 12; i++) {
+            court.makeStatement(i % 4, (i + 1) % 4, i == 11);
+        }
+        Check.due("6: drop the last of twelve", () -> court.dropStatement(11), 11);
+        Check.due("6: the new last one says apart", () -> court.isTogether(10), false);
+        court.makeStatement(3, 1, true);
+        Check.due("6: drop the first of twelve", () -> court.dropStatement(0), 11);
+        Check.due("6: all the others move", () -> court.secondOf(10), 1);
     }
 
     private static void groupCount() {
@@ -151,6 +159,12 @@ final class StatementsTest {
     }
 
     private static void verdicts() {
+        LanternCourt alone = Check.courtWith(1);
+        verdictOn(alone, 0, 'u');
+        alone.admit(0, false);
+        verdictOn(alone, 0, 'i');
+        alone.admit(0, true);
+        verdictOn(alone, 0, 'g');
         LanternCourt court = Check.courtWith(3);
         verdictOn(court, 0, 'u');
         court.admit(0, true);
