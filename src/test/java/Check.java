@@ -4,6 +4,7 @@ import java.util.function.Supplier;
 final class Check {
     private static int wrong = 0;
     private static int checks = 0;
+    private static String topic = "";
 
     private Check() {
     }
@@ -29,8 +30,35 @@ final class Check {
         checks++;
         if (!got.equals(due)) {
             wrong++;
-            System.out.println(what + " answered " + got + ", due is " + due);
+            System.out.println(topic + what + " answered " + got + ", due is " + due);
         }
+    }
+
+    static int count() {
+        return checks;
+    }
+
+    /** What the following checks are about; it is told with each wrong answer. */
+    static void about(String text) {
+        topic = text;
+    }
+
+    /** A call that throws and leaves the state as it was. */
+    static void refuses(String what, LanternCourt court, Supplier<Object> call, Class<? extends RuntimeException> due) {
+        String before = Snapshot.of(court);
+        fails(what, call, due);
+        sameLines("the state after " + what, Snapshot.of(court), before);
+    }
+
+    /** As same, but tells only the first lines that differ. */
+    static void sameLines(String what, String got, String due) {
+        String[] gotLines = got.split("\n");
+        String[] dueLines = due.split("\n");
+        int line = 0;
+        while (line < Math.min(gotLines.length, dueLines.length) - 1 && gotLines[line].equals(dueLines[line])) {
+            line++;
+        }
+        same(what, got.equals(due) ? "" : gotLines[line], got.equals(due) ? "" : dueLines[line]);
     }
 
     /** Feeds a text without carrying it out. */
