@@ -261,6 +261,8 @@ final class SentencesOfCommands {
             malformed(LONGEST.substring(0, 59), 59);
             malformed(LONGEST.substring(0, 55) + ";wai;", 59);
             malformed("lantern;lantern;lantern;lantern;lantern;lantern;free 1;free ", 60);
+            malformed("lantern;".repeat(7) + "free", 60);
+            endsAfterLongerTexts(texts);
         });
         Sentences.of(0, "Keywords are compared letter by letter.", () -> {
             for (String word : new String[] {"lantern", "file", "cancel", "say", "drop", "admit", "free", "wait"}) {
@@ -291,6 +293,32 @@ final class SentencesOfCommands {
             malformed(start, index);
             malformed("wait;" + start, index + 5);
             malformed(start + ";wait", index);
+        }
+    }
+
+    /** What an earlier text has left behind the end does not continue a later one. */
+    private static void endsAfterLongerTexts(String[] texts) {
+        for (String text : texts) {
+            LanternCourt court = court();
+            for (int i = 0; i < text.length(); i++) {
+                Check.run(court, text);
+                String start = text.substring(0, i) + "?";
+                runs(court, start, MALFORMED);
+                Check.due("error position of \"" + start + "\"", court::errorPosition, i);
+                Check.run(court, text);
+                if (i < 4) {
+                    runs(court, text.substring(0, i), MALFORMED);
+                    Check.due("error position of \"" + text.substring(0, i) + "\"", court::errorPosition, i);
+                }
+            }
+        }
+        LanternCourt court = court();
+        String[] ends = {"free", "free ", "say 01", "say 0", "admit 1", "admit 1 ", "file 0 1 1", "wait "};
+        String[] longer = {"free 1", "free 1", "say 01+", "say 01+", "admit 1 g", "admit 1 g", "file 0 1 1 1", "wait 1"};
+        for (int i = 0; i < ends.length; i++) {
+            Check.run(court, longer[i]);
+            runs(court, ends[i], MALFORMED);
+            Check.due("error position of \"" + ends[i] + "\"", court::errorPosition, ends[i].length());
         }
     }
 
@@ -425,6 +453,8 @@ final class SentencesOfCommands {
             Check.due("the latest", court::failedCommand, 1);
             runs(court, "wait", 1);
             Check.due("after a text that did not fail", court::failedCommand, 1);
+            runs(court, "free 0;x", MALFORMED);
+            Check.due("after a malformed text, of which no command was tried", court::failedCommand, 1);
             runs(court, "free 0", FAILED);
             Check.due("the first command", court::failedCommand, 0);
         });

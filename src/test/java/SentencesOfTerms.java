@@ -209,6 +209,12 @@ final class SentencesOfTerms {
             }
             court.withdraw(1);
             Check.due("each a day earlier", () -> court.hearingDay(2), 12);
+            LanternCourt crowded = Check.courtWith(1);
+            crowded.file(0, 5, 9, 1);
+            crowded.file(0, 1, 50, 1);
+            crowded.file(0, 1, 1, 1);
+            Check.due("a brief that is not in the plan takes no place in it", () -> Check.plan(crowded), "1 0");
+            Check.due("nor a day", () -> crowded.hearingDay(0), 2);
         });
     }
 

@@ -192,6 +192,17 @@ final class SentencesOfVerdicts {
             court.makeStatement(7, 4, true);
             court.makeStatement(3, 5, false);
             verdictsByExplanationsAre(court, "mmmmmmmm");
+            for (int lanterns : new int[] {1, 2, 8}) {
+                for (boolean guilty : new boolean[] {true, false}) {
+                    LanternCourt chain = Check.courtWith(lanterns);
+                    for (int i = 1; i < lanterns; i++) {
+                        chain.makeStatement(i - 1, i, true);
+                    }
+                    verdictsByExplanationsAre(chain, "u".repeat(lanterns));
+                    chain.admit(lanterns - 1, guilty);
+                    verdictsByExplanationsAre(chain, (guilty ? "g" : "i").repeat(lanterns));
+                }
+            }
         });
         Sentences.of(36, "Returns the verdict.", () -> {
             LanternCourt court = Check.courtWith(8);
